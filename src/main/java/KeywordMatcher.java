@@ -322,19 +322,15 @@ public final class KeywordMatcher {
         if (!isBufferPart(n)) {
             return BAD_VALUE;
         }
-        int answer = n > STREAM_BYTES - stream.length ? FULL : scanBuffer(n);
-        buffer.clear();
-        return answer;
-    }
-
-    private int scanBuffer(int n) {
+        boolean fits = n <= STREAM_BYTES - stream.length;
         int before = reported;
-        for (int i = 0; i < n; i++) {
+        for (int i = 0; i < n && fits; i++) {
             stream.append(buffer.at(i));
             noteMatchesAtEnd();
             reportMatchesAtEnd();
         }
-        return reported - before;
+        buffer.clear();
+        return fits ? reported - before : FULL;
     }
 
     private void noteMatchesAtEnd() {
@@ -748,7 +744,7 @@ public final class KeywordMatcher {
         /** The longest run of at most the given length that ends before aEnd and begins at bFrom. */
         int overlap(int[] a, int aEnd, int[] b, int bFrom, int most) {
             for (int n = most; n > 0; n--) {
-                if (same(a, aEnd - n, b, bFrom, n)) {
+                if (commonPrefix(a, aEnd - n, b, bFrom, n) == n) {
                     return n;
                 }
             }
@@ -895,21 +891,13 @@ public final class KeywordMatcher {
         }
 
         boolean isInsideAnother(int keyword) {
-            for (int other = 0; other < given; other++) {
-                if (lives[other] && other != keyword && isInside(keyword, other)) {
-                    return true;
-                }
-            }
-            return false;
-        }
-
-        private boolean isInside(int keyword, int other) {
             int length = lengthOf(keyword);
-            int first = firstByteOf(other);
-            int last = first + lengthOf(other) - length;
-            for (int from = first; from <= last; from++) {
-                if (folding.same(bytes, firstByteOf(keyword), bytes, from, length)) {
-                    return true;
+            for (int other = 0; other < given; other++) {
+                int places = lives[other] && other != keyword ? lengths[other] - length + 1 : 0;
+                for (int i = 0; i < places; i++) {
+                    if (folding.same(bytes, firstByteOf(keyword), bytes, firstByteOf(other) + i, length)) {
+                        return true;
+                    }
                 }
             }
             return false;
@@ -1117,7 +1105,11 @@ public final class KeywordMatcher {
                 measureOverlaps(x, x);
             }
             for (int round = 1; round < slots; round++) {
-                join(widestPair());
+                int cell = widestPair();
+                if (cell != NONE) {
+                    join(cell / MOST_LIVE, cell % MOST_LIVE);
+                    measureOverlaps(cell / MOST_LIVE, slots);
+                }
             }
             built = true;
         }
@@ -1147,7 +1139,7 @@ public final class KeywordMatcher {
             return folding.overlap(area.bytes, starts[x] + lengths[x], area.bytes, starts[y], most);
         }
 
-        /** The cell of the pair to be joined next: the first one with the largest overlap. */
+        /** The cell of the pair to be joined next: the first one with the largest overlap; NONE if there is no pair. */
         private int widestPair() {
             int widest = NONE;
             int cell = NONE;
@@ -1163,17 +1155,12 @@ public final class KeywordMatcher {
             return cell;
         }
 
-        private void join(int cell) {
-            if (cell < 0 || cell >= overlaps.length) {
-                return;
-            }
-            int x = cell / MOST_LIVE;
-            int y = cell % MOST_LIVE;
-            int from = starts[y] + overlaps[cell];
-            int count = lengths[y] - overlaps[cell];
+        private void join(int x, int y) {
+            int overlap = overlaps[x * MOST_LIVE + y];
+            int from = starts[y] + overlap;
+            int count = lengths[y] - overlap;
             lengths[y] = 0;
             layOut(x, from, count);
-            measureOverlaps(x, slots);
         }
 
         /** Copies all elements to the spare area, with the given bytes of the old area behind element x. */

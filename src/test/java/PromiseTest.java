@@ -697,7 +697,7 @@ public final class PromiseTest {
         sameText(Check.with("xaa", "yaa", "aaz", "aaw"), "xaazyaaw");
         sameText(Check.with(repeat("a", 15) + "x", "z" + repeat("a", 15)), "z" + repeat("a", 15) + "x");
         sameText(Check.with("bbcx", "abb", "xd"), "abbcxd");
-        sameText(Check.with("xab", "abb", "za"), "xabbza");
+        sameText(Check.with("abb", "aab", "qa"), "qaabb");
 
         KeywordMatcher m = Check.with("cab", "abd", "b", "q");
         sameText(m, "cabdq");
