@@ -17,6 +17,7 @@ public final class PromiseTest {
     }
 
     public static void main(String[] args) {
+        examples();
         newObject();
         texts();
         adding();
@@ -56,6 +57,42 @@ public final class PromiseTest {
             due("add", Check.add(m, "" + (char) ('a' + i / 10) + i % 10, 1), i);
         }
         return m;
+    }
+
+    private static void examples() {
+        promise = "the document's examples";
+        KeywordMatcher one = new KeywordMatcher();
+        due("appendBytes", one.appendBytes(1633771776, 0, 0, 0, 0), 20);
+        due("addKeyword", one.addKeyword(2, 5), 0);
+        due("appendBytes", one.appendBytes(1633772129, 1644167168, 0, 0, 0), 20);
+        due("scan", one.scan(5), 1);
+        due("matchCount", one.matchCount(), 1);
+        due("reportEnd", one.reportEnd(1), NONE);
+        due("coverSize", one.coverSize(), 1);
+        KeywordMatcher two = new KeywordMatcher();
+        due("appendBytes", two.appendBytes(1633771776, 0, 0, 0, 0), 20);
+        due("addKeyword", two.addKeyword(2, 5), 0);
+        due("appendBytes", two.appendBytes(1633771776, 0, 0, 0, 0), 20);
+        due("addKeyword", two.addKeyword(2, 1), DUPLICATE);
+        due("buildWork", two.buildWork(), 1);
+        due("mainSize", two.mainSize(0), 1);
+        KeywordMatcher three = Check.with("aa");
+        due("removeKeyword", three.removeKeyword(0), 0);
+        due("rebuildCount", three.rebuildCount(), 1);
+        due("buildWork", three.buildWork(), 2);
+        due("removeKeyword", three.removeKeyword(0), NO_SUCH);
+        KeywordMatcher four = new KeywordMatcher();
+        due("plannedWork", four.plannedWork(4), 8);
+        due("scan", four.scan(1), BAD_VALUE);
+        due("setFolding", four.setFolding(true), 0);
+        due("gapStart", four.gapStart(), NONE);
+        KeywordMatcher readme = new KeywordMatcher();
+        due("appendBytes", readme.appendBytes(0x61610000, 0, 0, 0, 0), 20);
+        due("addKeyword", readme.addKeyword(2, 5), 0);
+        due("appendBytes", readme.appendBytes(0x61616161, 0x62000000, 0, 0, 0), 20);
+        due("scan", readme.scan(5), 3);
+        due("reportEnd", readme.reportEnd(1), 2);
+        due("coverSize", readme.coverSize(), 2);
     }
 
     private static void newObject() {
