@@ -1,5 +1,7 @@
 /** What the tests share: comparing answers, and filling the text buffer from a string. */
 final class Check {
+    private static final int MOST_PRINTED = 60;
+
     private static int compared = 0;
     private static int wrong = 0;
 
@@ -10,7 +12,9 @@ final class Check {
         compared++;
         if (got != want) {
             wrong++;
-            System.out.println(call + " answered " + got + ", due is " + want);
+            if (wrong <= MOST_PRINTED) {
+                System.out.println(call + " answered " + got + ", due is " + want);
+            }
         }
     }
 
@@ -34,42 +38,49 @@ final class Check {
         return word;
     }
 
-    /** Appends the text to the buffer, in blocks of 20 bytes; answers what the last append answered. */
-    static int feed(KeywordMatcher m, String text) {
-        int answer = m.bufferLength();
+    /** Appends 20 bytes of the text from an index on to the buffer. */
+    static int append(Run m, String text, int from) {
+        return m.appendBytes(four(text, from), four(text, from + 4), four(text, from + 8), four(text, from + 12),
+                four(text, from + 16));
+    }
+
+    /** Appends the text to the buffer, in blocks of 20 bytes; answers what the last append answered, or 0. */
+    static int feed(Run m, String text) {
+        int answer = 0;
         for (int i = 0; i < text.length(); i += 20) {
-            answer = m.appendBytes(four(text, i), four(text, i + 4), four(text, i + 8), four(text, i + 12),
-                    four(text, i + 16));
+            answer = append(m, text, i);
         }
         return answer;
     }
 
-    static int add(KeywordMatcher m, String text, int weight) {
+    static int add(Run m, String text, int weight) {
         feed(m, text);
         return m.addKeyword(text.length(), weight);
     }
 
-    static int find(KeywordMatcher m, String text) {
+    static int find(Run m, String text) {
         feed(m, text);
         return m.findKeyword(text.length());
     }
 
-    static int scan(KeywordMatcher m, String text) {
+    static int scan(Run m, String text) {
         feed(m, text);
         return m.scan(text.length());
     }
 
-    static KeywordMatcher with(String... texts) {
-        KeywordMatcher m = new KeywordMatcher();
+    /** A matcher with these keywords; the weights are 1, 2, 3 and so on. */
+    static Run with(String... texts) {
+        Run m = new Run();
         for (int i = 0; i < texts.length; i++) {
             due("addKeyword of " + texts[i], add(m, texts[i], i + 1), i);
         }
         return m;
     }
 
-    static String superstring(KeywordMatcher m) {
+    static String superstring(Run m) {
         StringBuilder text = new StringBuilder();
-        for (int i = 0; i < m.superstringLength(); i++) {
+        int length = m.superstringLength();
+        for (int i = 0; i < length; i++) {
             text.append((char) m.superstringByte(i));
         }
         return text.toString();

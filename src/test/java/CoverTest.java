@@ -17,7 +17,7 @@ public final class CoverTest {
 
     private static void compare(int seed) {
         Random random = new Random(seed);
-        KeywordMatcher m = new KeywordMatcher();
+        Run m = new Run();
         PlainModel plain = new PlainModel();
         for (int i = 0; i < 5; i++) {
             String text = word(random, 1 + random.nextInt(4));

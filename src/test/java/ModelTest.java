@@ -1,26 +1,36 @@
 import java.util.List;
 import java.util.Random;
 
-/** Random runs of calls, each answer held against the plain model; the seeds are fixed. */
+/** Random runs of 512 calls, each answer held against the plain model; the seeds are fixed. */
 public final class ModelTest {
+    private static final int SEEDS = 960;
+    private static final int DEAREST_CHANGE = 20;
     private static final String[] ALPHABETS = {"a", "ab", "aAbB", "abcd", "xyzXYZ@[`{", "!~"};
+    private static final int[] LONGEST = {3, 16, 5, 8};
+    private static final int[] QUESTIONS_IN_HUNDRED = {10, 30, 60};
+    /** Of twelve changes, how many add, remove and scan; the others are rarer calls. */
+    private static final int[][] MOODS = {{4, 2, 3}, {6, 4, 0}, {2, 1, 7}, {8, 1, 1}, {5, 5, 1}};
 
     private final Random random;
-    private final KeywordMatcher m = new KeywordMatcher();
+    private final Run m = new Run();
     private final PlainModel plain = new PlainModel();
     private final String alphabet;
     private final int longest;
+    private final int questions;
+    private final int[] mood;
     private final String name;
 
     private ModelTest(int seed) {
         random = new Random(seed);
         alphabet = ALPHABETS[seed % ALPHABETS.length];
-        longest = new int[] {3, 16, 5, 8}[seed / ALPHABETS.length % 4];
+        longest = LONGEST[random.nextInt(LONGEST.length)];
+        questions = QUESTIONS_IN_HUNDRED[random.nextInt(QUESTIONS_IN_HUNDRED.length)];
+        mood = MOODS[random.nextInt(MOODS.length)];
         name = "seed " + seed + " ";
     }
 
     public static void main(String[] args) {
-        for (int seed = 0; seed < 144 && Check.allRight(); seed++) {
+        for (int seed = 0; seed < SEEDS && Check.allRight(); seed++) {
             new ModelTest(seed).run();
         }
         Check.finish("ModelTest");
@@ -33,26 +43,30 @@ public final class ModelTest {
     private void run() {
         boolean on = random.nextBoolean();
         due("setFolding", m.setFolding(on), plain.setFolding(on));
-        int calls = random.nextInt(8) == 0 ? 500 : 120;
-        for (int i = 0; i < calls && Check.allRight(); i++) {
-            change();
-            if (i % 8 == 0) {
-                compareCounts();
-                compareLists();
-                compareKeywords();
-                compareLevels();
+        while (m.left() > DEAREST_CHANGE + 40 && Check.allRight()) {
+            if (random.nextInt(100) < questions) {
+                ask();
+            } else {
+                change();
             }
+        }
+        while (m.left() > 0 && Check.allRight()) {
+            ask();
         }
     }
 
     private void change() {
-        switch (random.nextInt(12)) {
-            case 0, 1, 2, 3 -> add();
-            case 4, 5 -> remove();
-            case 6, 7, 8 -> scan();
-            case 9 -> findOne();
-            case 10 -> strange();
-            default -> rare();
+        int which = random.nextInt(12);
+        if (which < mood[0]) {
+            add();
+        } else if (which < mood[0] + mood[1]) {
+            remove();
+        } else if (which < mood[0] + mood[1] + mood[2]) {
+            scan();
+        } else if (random.nextInt(3) > 0) {
+            strange();
+        } else {
+            rare();
         }
     }
 
@@ -66,14 +80,10 @@ public final class ModelTest {
 
     private void feed(String text) {
         for (int i = 0; i < text.length(); i += 20) {
-            int a = Check.four(text, i);
-            int b = Check.four(text, i + 4);
-            int c = Check.four(text, i + 8);
-            int d = Check.four(text, i + 12);
-            int e = Check.four(text, i + 16);
-            due("appendBytes", m.appendBytes(a, b, c, d, e), plain.appendBytes(a, b, c, d, e));
+            int want = plain.appendBytes(Check.four(text, i), Check.four(text, i + 4), Check.four(text, i + 8),
+                    Check.four(text, i + 12), Check.four(text, i + 16));
+            due("appendBytes", Check.append(m, text, i), want);
         }
-        due("bufferLength", m.bufferLength(), plain.buffer.length());
     }
 
     private void add() {
@@ -81,52 +91,46 @@ public final class ModelTest {
         int weight = 1 + random.nextInt(3);
         feed(text);
         due("addKeyword " + text, m.addKeyword(text.length(), weight), plain.addKeyword(text.length(), weight));
-        due("bufferLength", m.bufferLength(), plain.buffer.length());
     }
 
     private void remove() {
         int keyword = random.nextInt(plain.texts.size() + 1);
+        for (int i = 0; i < 3 && !plain.lives(keyword); i++) {
+            keyword = random.nextInt(plain.texts.size() + 1);
+        }
         due("removeKeyword " + keyword, m.removeKeyword(keyword), plain.removeKeyword(keyword));
     }
 
     private void scan() {
-        String text = random.nextInt(4) == 0 ? word(random.nextInt(60)) : word(random.nextInt(12));
+        String text = random.nextInt(4) == 0 ? word(random.nextInt(90)) : word(random.nextInt(12));
         if (random.nextInt(4) == 0) {
             text += (char) random.nextInt(256);
         }
         feed(text);
         due("scan " + text, m.scan(text.length()), plain.scan(text.length()));
-        due("bufferLength", m.bufferLength(), plain.buffer.length());
-    }
-
-    private void findOne() {
-        String text = word(random.nextInt(longest + 1));
-        feed(text);
-        due("findKeyword " + text, m.findKeyword(text.length()), plain.findKeyword(text.length()));
     }
 
     private void strange() {
         if (random.nextBoolean()) {
             feed(word(random.nextInt(250)));
         }
-        int n = random.nextInt(220) - 5;
+        int n = random.nextBoolean() ? random.nextInt(220) - 5 : random.nextInt(longest + 2);
         int weight = random.nextInt(110) - 5;
-        switch (random.nextInt(3)) {
+        switch (random.nextInt(4)) {
             case 0 -> due("addKeyword", m.addKeyword(n, weight), plain.addKeyword(n, weight));
-            case 1 -> due("findKeyword", m.findKeyword(n), plain.findKeyword(n));
+            case 1, 2 -> due("findKeyword", m.findKeyword(n), plain.findKeyword(n));
             default -> due("scan", m.scan(n), plain.scan(n));
         }
     }
 
     private void rare() {
-        switch (random.nextInt(4)) {
+        switch (random.nextInt(3)) {
             case 0 -> due("resetStream", m.resetStream(), plain.resetStream());
             case 1 -> {
-                for (int keyword = 0; keyword < plain.texts.size() && random.nextInt(30) > 0; keyword++) {
+                for (int keyword : plain.liveNumbers()) {
                     due("removeKeyword " + keyword, m.removeKeyword(keyword), plain.removeKeyword(keyword));
                 }
             }
-            case 2 -> due("resetStream", m.resetStream(), plain.resetStream());
             default -> {
                 boolean on = random.nextBoolean();
                 due("setFolding", m.setFolding(on), plain.setFolding(on));
@@ -134,80 +138,116 @@ public final class ModelTest {
         }
     }
 
-    private void compareCounts() {
-        due("liveCount", m.liveCount(), plain.liveNumbers().size());
-        due("buildWork", m.buildWork(), plain.work);
-        due("rebuildCount", m.rebuildCount(), plain.rebuilds);
-        due("streamLength", m.streamLength(), plain.stream.length());
-        due("reportCount", m.reportCount(), plain.reports.size());
-        due("matchCount", m.matchCount(), plain.matches().size());
-        due("overlappingPairs", m.overlappingPairs(), plain.overlappingPairs());
-        due("maximumDepth", m.maximumDepth(), plain.maximumDepth());
-        due("containedMatches", m.containedMatches(), plain.containedMatches());
-        due("gapStart", m.gapStart(), plain.gap()[0]);
-        due("gapLength", m.gapLength(), plain.gap()[1]);
-    }
-
-    private void compareLists() {
-        List<PlainModel.Match> cover = plain.cover();
-        due("coveredBytes", m.coveredBytes(), PlainModel.worth(cover)[0]);
-        due("coverWeight", m.coverWeight(), PlainModel.worth(cover)[1]);
-        due("coverSize", m.coverSize(), cover.size());
-        List<PlainModel.Match> longestOnes = plain.longest();
-        due("longestSize", m.longestSize(), longestOnes.size());
-        for (int i = -1; i < 40; i++) {
-            int missing = i < 0 ? PlainModel.BAD_VALUE : PlainModel.NONE;
-            boolean inCover = i >= 0 && i < cover.size();
-            due("coverStart " + i, m.coverStart(i), inCover ? cover.get(i).start() : missing);
-            due("coverKeyword " + i, m.coverKeyword(i), inCover ? cover.get(i).keyword() : missing);
-            boolean inLongest = i >= 0 && i < longestOnes.size();
-            due("longestStart " + i, m.longestStart(i), inLongest ? longestOnes.get(i).start() : missing);
-            due("longestKeyword " + i, m.longestKeyword(i), inLongest ? longestOnes.get(i).keyword() : missing);
-            int report = i < 0 ? i : random.nextInt(320);
-            due("reportEnd " + report, m.reportEnd(report), plain.report(report, 0));
-            due("reportKeyword " + report, m.reportKeyword(report), plain.report(report, 1));
-            int position = i < 0 ? i : random.nextInt(plain.stream.length() + 2);
-            due("streamByte " + position, m.streamByte(position), plain.streamByte(position));
-        }
-        String superstring = plain.superstring();
-        due("superstringLength", m.superstringLength(), superstring.length());
-        for (int i = 0; i < superstring.length(); i++) {
-            due("superstringByte " + i, m.superstringByte(i), superstring.charAt(i));
-        }
-        due("superstringByte", m.superstringByte(superstring.length()), PlainModel.NONE);
-    }
-
-    private void compareKeywords() {
-        for (int i = 0; i < 12; i++) {
-            int k = random.nextInt(plain.texts.size() + 2) - 1;
-            int other = random.nextInt(plain.texts.size() + 2) - 1;
-            int n = random.nextInt(19) - 1;
-            due("keywordLength", m.keywordLength(k), plain.keywordLength(k));
-            due("keywordByte", m.keywordByte(k, n), plain.keywordByte(k, n));
-            due("keywordWeight", m.keywordWeight(k), plain.keywordWeight(k));
-            due("isLive", m.isLive(k), plain.isLive(k));
-            due("levelOf", m.levelOf(k), plain.levelOf(k));
-            due("failureLength " + k + " " + n, m.failureLength(k, n), plain.failureLength(k, n));
-            due("matchCountOf", m.matchCountOf(k), plain.matchCountOf(k));
-            int position = random.nextInt(plain.stream.length() + 3) - 1;
-            due("nextMatch", m.nextMatch(k, position), plain.nextMatch(k, position));
-            due("overlapLength", m.overlapLength(k, other), plain.overlapLength(k, other));
-            int mismatches = random.nextInt(6) - 1;
-            due("nearMatchCount", m.nearMatchCount(k, mismatches), plain.nearMatchCount(k, mismatches));
-            due("fewestMismatches", m.fewestMismatches(k), plain.fewestMismatches(k));
-            due("nearestStart", m.nearestStart(k), plain.nearestStart(k));
-            due("superstringStart", m.superstringStart(k), plain.superstringStart(k));
+    private void ask() {
+        switch (random.nextInt(8)) {
+            case 0 -> askForCounts();
+            case 1 -> askForMatches();
+            case 2 -> askForLists();
+            case 3 -> askForStored();
+            case 4 -> askForSuperstring();
+            case 5 -> askForLevel(random.nextInt(9) - 1);
+            case 6 -> askForKeyword(random.nextInt(plain.texts.size() + 2) - 1);
+            default -> askForLiving(random.nextInt(plain.texts.size() + 2) - 1);
         }
     }
 
-    private void compareLevels() {
-        for (int level = -1; level <= 7; level++) {
-            due("mainSize", m.mainSize(level), PlainModel.size(plain.main, level));
-            due("removalSize", m.removalSize(level), PlainModel.size(plain.removal, level));
-            due("stateCount " + level, m.stateCount(level), plain.stateCount(level));
-            due("currentDepth " + level, m.currentDepth(level), plain.currentDepth(level));
+    private void askForCounts() {
+        switch (random.nextInt(7)) {
+            case 0 -> due("liveCount", m.liveCount(), plain.liveNumbers().size());
+            case 1 -> due("buildWork", m.buildWork(), plain.work);
+            case 2 -> due("rebuildCount", m.rebuildCount(), plain.rebuilds);
+            case 3 -> due("streamLength", m.streamLength(), plain.stream.length());
+            case 4 -> due("reportCount", m.reportCount(), plain.reports.size());
+            case 5 -> due("bufferLength", m.bufferLength(), plain.buffer.length());
+            default -> {
+                int count = random.nextInt(43) - 1;
+                due("plannedWork " + count, m.plannedWork(count), plain.plannedWork(count));
+            }
         }
-        int count = random.nextInt(43) - 1;
-        due("plannedWork " + count, m.plannedWork(count), plain.plannedWork(count));
+    }
+
+    private void askForMatches() {
+        switch (random.nextInt(6)) {
+            case 0 -> due("matchCount", m.matchCount(), plain.matches().size());
+            case 1 -> due("overlappingPairs", m.overlappingPairs(), plain.overlappingPairs());
+            case 2 -> due("maximumDepth", m.maximumDepth(), plain.maximumDepth());
+            case 3 -> due("containedMatches", m.containedMatches(), plain.containedMatches());
+            case 4 -> due("gapStart", m.gapStart(), plain.gap()[0]);
+            default -> due("gapLength", m.gapLength(), plain.gap()[1]);
+        }
+    }
+
+    private void askForLists() {
+        boolean ofCover = random.nextBoolean();
+        List<PlainModel.Match> list = ofCover ? plain.cover() : plain.longest();
+        int i = random.nextInt(list.size() + 2) - 1;
+        boolean there = i >= 0 && i < list.size();
+        int missing = i < 0 ? PlainModel.BAD_VALUE : PlainModel.NONE;
+        int start = there ? list.get(i).start() : missing;
+        int keyword = there ? list.get(i).keyword() : missing;
+        switch (random.nextInt(ofCover ? 5 : 3)) {
+            case 0 -> due("size", ofCover ? m.coverSize() : m.longestSize(), list.size());
+            case 1 -> due("start " + i, ofCover ? m.coverStart(i) : m.longestStart(i), start);
+            case 2 -> due("keyword " + i, ofCover ? m.coverKeyword(i) : m.longestKeyword(i), keyword);
+            case 3 -> due("coveredBytes", m.coveredBytes(), PlainModel.worth(list)[0]);
+            default -> due("coverWeight", m.coverWeight(), PlainModel.worth(list)[1]);
+        }
+    }
+
+    private void askForStored() {
+        int report = random.nextInt(Math.min(plain.reports.size(), 310) + 2) - 1;
+        int position = random.nextInt(plain.stream.length() + 2) - 1;
+        switch (random.nextInt(3)) {
+            case 0 -> due("reportEnd " + report, m.reportEnd(report), plain.report(report, 0));
+            case 1 -> due("reportKeyword " + report, m.reportKeyword(report), plain.report(report, 1));
+            default -> due("streamByte " + position, m.streamByte(position), plain.streamByte(position));
+        }
+    }
+
+    private void askForSuperstring() {
+        String text = plain.superstring();
+        int index = random.nextInt(text.length() + 2) - 1;
+        int keyword = random.nextInt(plain.texts.size() + 2) - 1;
+        switch (random.nextInt(3)) {
+            case 0 -> due("superstringLength", m.superstringLength(), text.length());
+            case 1 -> due("superstringByte " + index, m.superstringByte(index), plain.superstringByte(index));
+            default -> due("superstringStart " + keyword, m.superstringStart(keyword), plain.superstringStart(keyword));
+        }
+    }
+
+    private void askForLevel(int level) {
+        switch (random.nextInt(4)) {
+            case 0 -> due("mainSize " + level, m.mainSize(level), PlainModel.size(plain.main, level));
+            case 1 -> due("removalSize " + level, m.removalSize(level), PlainModel.size(plain.removal, level));
+            case 2 -> due("stateCount " + level, m.stateCount(level), plain.stateCount(level));
+            default -> due("currentDepth " + level, m.currentDepth(level), plain.currentDepth(level));
+        }
+    }
+
+    private void askForKeyword(int k) {
+        int other = random.nextInt(plain.texts.size() + 2) - 1;
+        int n = random.nextInt(Math.max(plain.keywordLength(k), 0) + 3) - 1;
+        switch (random.nextInt(8)) {
+            case 0 -> due("keywordLength " + k, m.keywordLength(k), plain.keywordLength(k));
+            case 1 -> due("keywordByte " + k + " " + n, m.keywordByte(k, n), plain.keywordByte(k, n));
+            case 2 -> due("keywordWeight " + k, m.keywordWeight(k), plain.keywordWeight(k));
+            case 3 -> due("isLive " + k, m.isLive(k), plain.isLive(k));
+            case 4 -> due("levelOf " + k, m.levelOf(k), plain.levelOf(k));
+            case 5 -> due("overlapLength " + k + " " + other, m.overlapLength(k, other), plain.overlapLength(k, other));
+            default -> due("failureLength " + k + " " + n, m.failureLength(k, n), plain.failureLength(k, n));
+        }
+    }
+
+    private void askForLiving(int k) {
+        int position = random.nextInt(plain.stream.length() + 3) - 1;
+        int mismatches = random.nextInt(6) - 1;
+        switch (random.nextInt(5)) {
+            case 0 -> due("matchCountOf " + k, m.matchCountOf(k), plain.matchCountOf(k));
+            case 1 -> due("nextMatch " + k + " " + position, m.nextMatch(k, position), plain.nextMatch(k, position));
+            case 2 -> due("nearMatchCount " + k + " " + mismatches, m.nearMatchCount(k, mismatches),
+                    plain.nearMatchCount(k, mismatches));
+            case 3 -> due("fewestMismatches " + k, m.fewestMismatches(k), plain.fewestMismatches(k));
+            default -> due("nearestStart " + k, m.nearestStart(k), plain.nearestStart(k));
+        }
     }
 }

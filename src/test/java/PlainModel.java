@@ -226,8 +226,9 @@ final class PlainModel {
             return NONE;
         }
         int depth = 0;
+        String folded = fold(stream);
         for (String prefix : prefixes(level)) {
-            if (fold(stream).endsWith(prefix)) {
+            if (folded.endsWith(prefix)) {
                 depth = Math.max(depth, prefix.length());
             }
         }
@@ -290,9 +291,10 @@ final class PlainModel {
         int before = reports.size();
         for (char c : text.toCharArray()) {
             stream += c;
+            String folded = fold(stream);
             List<Integer> ending = new ArrayList<>();
             for (int k : liveNumbers()) {
-                if (fold(stream).endsWith(fold(texts.get(k)))) {
+                if (folded.endsWith(fold(texts.get(k)))) {
                     ending.add(k);
                 }
             }
@@ -321,9 +323,10 @@ final class PlainModel {
 
     List<Match> matches() {
         List<Match> found = new ArrayList<>();
+        String folded = fold(stream);
         for (int start = 0; start < stream.length(); start++) {
             for (int k : liveNumbers()) {
-                if (fold(stream).startsWith(fold(texts.get(k)), start)) {
+                if (folded.startsWith(fold(texts.get(k)), start)) {
                     found.add(new Match(start, k, texts.get(k).length(), weights.get(k)));
                 }
             }
@@ -409,10 +412,11 @@ final class PlainModel {
     List<Integer> mismatches(int k) {
         List<Integer> counts = new ArrayList<>();
         String text = fold(texts.get(k));
+        String folded = fold(stream);
         for (int p = 0; p + text.length() <= stream.length(); p++) {
             int count = 0;
             for (int i = 0; i < text.length(); i++) {
-                count += text.charAt(i) == fold(stream).charAt(p + i) ? 0 : 1;
+                count += text.charAt(i) == folded.charAt(p + i) ? 0 : 1;
             }
             counts.add(count);
         }

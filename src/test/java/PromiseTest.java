@@ -51,8 +51,8 @@ public final class PromiseTest {
     }
 
     /** Forty different keywords of two bytes, from "a0" on. */
-    private static KeywordMatcher crowded() {
-        KeywordMatcher m = new KeywordMatcher();
+    private static Run crowded() {
+        Run m = new Run();
         for (int i = 0; i < 40; i++) {
             due("add", Check.add(m, "" + (char) ('a' + i / 10) + i % 10, 1), i);
         }
@@ -61,7 +61,7 @@ public final class PromiseTest {
 
     private static void examples() {
         promise = "the document's examples";
-        KeywordMatcher one = new KeywordMatcher();
+        Run one = new Run();
         due("appendBytes", one.appendBytes(1633771776, 0, 0, 0, 0), 20);
         due("addKeyword", one.addKeyword(2, 5), 0);
         due("appendBytes", one.appendBytes(1633772129, 1644167168, 0, 0, 0), 20);
@@ -69,24 +69,24 @@ public final class PromiseTest {
         due("matchCount", one.matchCount(), 1);
         due("reportEnd", one.reportEnd(1), NONE);
         due("coverSize", one.coverSize(), 1);
-        KeywordMatcher two = new KeywordMatcher();
+        Run two = new Run();
         due("appendBytes", two.appendBytes(1633771776, 0, 0, 0, 0), 20);
         due("addKeyword", two.addKeyword(2, 5), 0);
         due("appendBytes", two.appendBytes(1633771776, 0, 0, 0, 0), 20);
         due("addKeyword", two.addKeyword(2, 1), DUPLICATE);
         due("buildWork", two.buildWork(), 1);
         due("mainSize", two.mainSize(0), 1);
-        KeywordMatcher three = Check.with("aa");
+        Run three = Check.with("aa");
         due("removeKeyword", three.removeKeyword(0), 0);
         due("rebuildCount", three.rebuildCount(), 1);
         due("buildWork", three.buildWork(), 2);
         due("removeKeyword", three.removeKeyword(0), NO_SUCH);
-        KeywordMatcher four = new KeywordMatcher();
+        Run four = new Run();
         due("plannedWork", four.plannedWork(4), 8);
         due("scan", four.scan(1), BAD_VALUE);
         due("setFolding", four.setFolding(true), 0);
         due("gapStart", four.gapStart(), NONE);
-        KeywordMatcher readme = new KeywordMatcher();
+        Run readme = new Run();
         due("appendBytes", readme.appendBytes(0x61610000, 0, 0, 0, 0), 20);
         due("addKeyword", readme.addKeyword(2, 5), 0);
         due("appendBytes", readme.appendBytes(0x61616161, 0x62000000, 0, 0, 0), 20);
@@ -97,7 +97,7 @@ public final class PromiseTest {
 
     private static void newObject() {
         promise = "1";
-        KeywordMatcher m = new KeywordMatcher();
+        Run m = new Run();
         due("liveCount", m.liveCount(), 0);
         due("streamLength", m.streamLength(), 0);
         due("bufferLength", m.bufferLength(), 0);
@@ -106,12 +106,12 @@ public final class PromiseTest {
         due("rebuildCount", m.rebuildCount(), 0);
         due("setFolding", m.setFolding(false), 0);
         Check.add(m, "a", 1);
-        due("another object is not touched", new KeywordMatcher().liveCount(), 0);
+        due("another object is not touched", new Run().liveCount(), 0);
     }
 
     private static void texts() {
         promise = "2 and 3";
-        KeywordMatcher m = new KeywordMatcher();
+        Run m = new Run();
         due("appendBytes", m.appendBytes(0x01020304, 0x7f80fe00, -1, 0, 0x10203040), 20);
         due("bufferLength", m.bufferLength(), 20);
         due("scan", m.scan(20), 0);
@@ -132,7 +132,7 @@ public final class PromiseTest {
 
     private static void adding() {
         promise = "4";
-        KeywordMatcher m = new KeywordMatcher();
+        Run m = new Run();
         due("the first keyword", Check.add(m, "!~", 1), 0);
         due("the buffer is empty", m.bufferLength(), 0);
         due("sixteen bytes", Check.add(m, SIXTEEN, 99), 1);
@@ -167,7 +167,7 @@ public final class PromiseTest {
 
     private static void addingLimits() {
         promise = "4";
-        KeywordMatcher m = crowded();
+        Run m = crowded();
         due("the forty-first", Check.add(m, "z", 1), FULL);
         due("the buffer is empty after FULL", m.bufferLength(), 0);
         due("DUPLICATE before FULL", Check.add(m, "a0", 1), DUPLICATE);
@@ -176,7 +176,7 @@ public final class PromiseTest {
         due("removing", m.removeKeyword(7), 39);
         due("makes room", Check.add(m, "z", 1), 40);
 
-        KeywordMatcher n = new KeywordMatcher();
+        Run n = new Run();
         for (int i = 0; i < 120; i++) {
             due("number", Check.add(n, "k", 1), i);
             due("removing", n.removeKeyword(i), 0);
@@ -189,7 +189,7 @@ public final class PromiseTest {
 
     private static void removing() {
         promise = "5";
-        KeywordMatcher m = Check.with("ab", "bc", "cd");
+        Run m = Check.with("ab", "bc", "cd");
         due("removeKeyword", m.removeKeyword(1), 2);
         due("a removed one", m.removeKeyword(1), NO_SUCH);
         due("not given out", m.removeKeyword(3), NO_SUCH);
@@ -207,7 +207,7 @@ public final class PromiseTest {
 
     private static void asking() {
         promise = "6";
-        KeywordMatcher m = Check.with("ab", "abc", SIXTEEN);
+        Run m = Check.with("ab", "abc", SIXTEEN);
         due("findKeyword", Check.find(m, "abc"), 1);
         due("the buffer is empty", m.bufferLength(), 0);
         due("a prefix of the buffer", Check.feed(m, "abcdef"), 20);
@@ -264,7 +264,7 @@ public final class PromiseTest {
 
     private static void folding() {
         promise = "12";
-        KeywordMatcher m = new KeywordMatcher();
+        Run m = new Run();
         due("on", m.setFolding(true), 0);
         due("on again", m.setFolding(true), 1);
         due("add", Check.add(m, "aB[", 1), 0);
@@ -296,20 +296,21 @@ public final class PromiseTest {
 
     private static void bucketSizes() {
         promise = "13 and 14";
-        KeywordMatcher m = new KeywordMatcher();
+        Run grown = new Run();
         for (int i = 0; i < 40; i++) {
-            due("add", Check.add(m, "" + (char) ('a' + i / 10) + i % 10, 1), i);
+            due("add", Check.add(grown, "" + (char) ('a' + i / 10) + i % 10, 1), i);
             for (int level = 0; level <= 6; level++) {
-                due("mainSize", m.mainSize(level), i + 1 & 1 << level);
-                due("removalSize", m.removalSize(level), 0);
+                due("mainSize", grown.mainSize(level), i + 1 & 1 << level);
             }
+            due("removalSize", grown.removalSize(i % 7), 0);
         }
+        Run m = crowded();
         for (int i = 0; i < 19; i++) {
             due("remove", m.removeKeyword(i), 39 - i);
-            for (int level = 0; level <= 6; level++) {
-                due("the main set stays", m.mainSize(level), 40 & 1 << level);
+            for (int level = 0; level <= 4; level++) {
                 due("removalSize", m.removalSize(level), i + 1 & 1 << level);
             }
+            due("the main set stays", m.mainSize(i % 7), 40 & 1 << i % 7);
         }
         for (int i = 0; i < 19; i++) {
             due("add again", Check.add(m, "" + (char) ('a' + i / 10) + i % 10, 1), 40 + i);
@@ -333,7 +334,7 @@ public final class PromiseTest {
 
     private static void automata() {
         promise = "15";
-        KeywordMatcher m = Check.with("he", "she", "his", "hers", "hex");
+        Run m = Check.with("he", "she", "his", "hers", "hex");
         due("stateCount", m.stateCount(2), 10);
         due("one keyword", m.stateCount(0), 4);
         due("an empty level", m.stateCount(1), NONE);
@@ -356,7 +357,7 @@ public final class PromiseTest {
         due("a removed one", m.removeKeyword(1), 4);
         due("stays in its bucket", m.currentDepth(2), 2);
         due("with its states", m.stateCount(2), 10);
-        KeywordMatcher longOne = Check.with(SIXTEEN);
+        Run longOne = Check.with(SIXTEEN);
         due("scan", Check.scan(longOne, "x" + SIXTEEN), 1);
         due("sixteen", longOne.currentDepth(0), 16);
 
@@ -388,7 +389,7 @@ public final class PromiseTest {
         due("both", m.levelOf(4), 1);
 
         promise = "15 to 18 with folding";
-        KeywordMatcher n = new KeywordMatcher();
+        Run n = new Run();
         due("on", n.setFolding(true), 0);
         due("add", Check.add(n, "ABc", 1), 0);
         due("add", Check.add(n, "bCa", 1), 1);
@@ -402,7 +403,7 @@ public final class PromiseTest {
 
     private static void work() {
         promise = "19";
-        KeywordMatcher m = new KeywordMatcher();
+        Run m = new Run();
         int[] want = {1, 3, 4, 8, 9, 11, 12, 20};
         for (int i = 0; i < want.length; i++) {
             due("add", Check.add(m, "" + (char) ('a' + i), 1), i);
@@ -437,7 +438,7 @@ public final class PromiseTest {
         due("removalSize", m.removalSize(2), 0);
         due("remove", m.removeKeyword(7), NO_SUCH);
         due("changes nothing", m.rebuildCount(), 1);
-        KeywordMatcher n = Check.with("a", "b", "c", "d", "e");
+        Run n = Check.with("a", "b", "c", "d", "e");
         due("remove", n.removeKeyword(0), 4);
         due("remove", n.removeKeyword(1), 3);
         due("four is less than five", n.rebuildCount(), 0);
@@ -446,7 +447,7 @@ public final class PromiseTest {
         due("remove", n.removeKeyword(3), 1);
         due("one of two", n.rebuildCount(), 2);
         due("the removal and the rebuild work", n.buildWork(), 9 + 1 + 2 + 1 + 3 + 1 + 1);
-        KeywordMatcher first = Check.with("a", "b", "c");
+        Run first = Check.with("a", "b", "c");
         due("remove", first.removeKeyword(2), 2);
         due("remove", first.removeKeyword(1), 1);
         due("the first one stays", first.levelOf(0), 0);
@@ -455,7 +456,7 @@ public final class PromiseTest {
 
     private static void scanning() {
         promise = "22";
-        KeywordMatcher m = Check.with("aa", "a");
+        Run m = Check.with("aa", "a");
         due("scan", Check.scan(m, "aaa"), 5);
         due("no bytes", Check.scan(m, ""), 0);
         due("across calls", Check.scan(m, "a"), 2);
@@ -478,7 +479,7 @@ public final class PromiseTest {
 
     private static void streamLimits() {
         promise = "22";
-        KeywordMatcher m = Check.with("a");
+        Run m = Check.with("a");
         for (int i = 0; i < 3; i++) {
             due("scan", Check.scan(m, repeat("a", 199)), 199);
         }
@@ -523,7 +524,7 @@ public final class PromiseTest {
 
     private static void reports() {
         promise = "26 to 28";
-        KeywordMatcher m = Check.with("b", "aab", "ab");
+        Run m = Check.with("b", "aab", "ab");
         due("scan", Check.scan(m, "aabb"), 4);
         due("reportCount", m.reportCount(), 4);
         int[] ends = {2, 2, 2, 3};
@@ -544,7 +545,7 @@ public final class PromiseTest {
         due("the report stays", m.reportKeyword(0), 1);
         due("the count stays", m.reportCount(), 4);
 
-        KeywordMatcher n = Check.with("a", "aa");
+        Run n = Check.with("a", "aa");
         due("scan", Check.scan(n, repeat("a", 200)), 399);
         due("all are counted", n.reportCount(), 399);
         due("the last one that is stored", n.reportEnd(299), 150);
@@ -558,7 +559,7 @@ public final class PromiseTest {
 
     private static void counting() {
         promise = "29";
-        KeywordMatcher m = Check.with("aa", "a", "b");
+        Run m = Check.with("aa", "a", "b");
         due("an empty stream", m.matchCount(), 0);
         due("scan", Check.scan(m, "aabaa"), 7);
         due("matchCount", m.matchCount(), 7);
@@ -569,7 +570,7 @@ public final class PromiseTest {
         due("from the first byte on", m.nextMatch(4, 0), 0);
         due("remove", m.removeKeyword(4), 4);
         due("all its matches go", m.matchCount(), 8);
-        KeywordMatcher thick = new KeywordMatcher();
+        Run thick = new Run();
         for (int n = 1; n <= 16; n++) {
             due("add", Check.add(thick, repeat("a", n), 1), n - 1);
         }
@@ -603,15 +604,15 @@ public final class PromiseTest {
     }
 
     private static void overlaps() {
-        KeywordMatcher m = Check.with("abc", "cd", "b", "xy", "bc");
+        Run m = Check.with("abc", "cd", "b", "xy", "bc");
         promise = "32";
         due("an empty stream", m.overlappingPairs(), 0);
         due("scan", Check.scan(m, "abcdxy"), 5);
         due("abc-cd, abc-b, abc-bc, b-bc, bc-cd", m.overlappingPairs(), 5);
-        KeywordMatcher side = Check.with("ab", "cd");
+        Run side = Check.with("ab", "cd");
         due("scan", Check.scan(side, "abcd"), 2);
         due("side by side", side.overlappingPairs(), 0);
-        KeywordMatcher both = Check.with("a", "ab");
+        Run both = Check.with("a", "ab");
         due("scan", Check.scan(both, "ab"), 2);
         due("from the same start", both.overlappingPairs(), 1);
 
@@ -625,12 +626,12 @@ public final class PromiseTest {
         due("b and bc", m.containedMatches(), 2);
         due("side by side", side.containedMatches(), 0);
         due("from the same start", both.containedMatches(), 1);
-        KeywordMatcher ends = Check.with("abc", "ab", "bc", "bcd");
+        Run ends = Check.with("abc", "ab", "bc", "bcd");
         due("scan", Check.scan(ends, "abcd"), 4);
         due("at the start and at the end", ends.containedMatches(), 2);
 
         promise = "37";
-        KeywordMatcher n = Check.with("abab", "ba", "aba", "c", SIXTEEN, repeat("a", 16));
+        Run n = Check.with("abab", "ba", "aba", "c", SIXTEEN, repeat("a", 16));
         due("abab, ba", n.overlapLength(0, 1), 1);
         due("abab, abab", n.overlapLength(0, 0), 2);
         due("abab, aba", n.overlapLength(0, 2), 2);
@@ -645,7 +646,7 @@ public final class PromiseTest {
         due("not given out", n.overlapLength(6, 0), NO_SUCH);
         due("negative", n.overlapLength(-1, 0), NO_SUCH);
         due("lowest", n.overlapLength(0, LOWEST), NO_SUCH);
-        KeywordMatcher folded = Check.with("xAB", "abx");
+        Run folded = Check.with("xAB", "abx");
         due("without folding", folded.overlapLength(0, 1), 0);
         due("remove", folded.removeKeyword(0), 1);
         due("remove", folded.removeKeyword(1), 0);
@@ -655,7 +656,7 @@ public final class PromiseTest {
 
     private static void gaps() {
         promise = "35 and 36";
-        KeywordMatcher m = Check.with("ab");
+        Run m = Check.with("ab");
         due("an empty stream", m.gapLength(), 0);
         due("an empty stream", m.gapStart(), NONE);
         due("scan", Check.scan(m, "xabyyabzzab"), 3);
@@ -675,7 +676,7 @@ public final class PromiseTest {
 
     private static void nearMatches() {
         promise = "38";
-        KeywordMatcher m = Check.with("abcd", "xy", SIXTEEN);
+        Run m = Check.with("abcd", "xy", SIXTEEN);
         due("a short stream", m.nearMatchCount(0, 3), 0);
         due("scan", Check.scan(m, "abcxabcd"), 1);
         due("none", m.nearMatchCount(0, 0), 1);
@@ -704,15 +705,15 @@ public final class PromiseTest {
         due("removed", m.fewestMismatches(3), NO_SUCH);
         due("removed", m.nearestStart(-1), NO_SUCH);
         due("removed", m.nearMatchCount(3, 0), NO_SUCH);
-        KeywordMatcher exact = Check.with("abc");
+        Run exact = Check.with("abc");
         due("scan", Check.scan(exact, "xbz"), 0);
         due("as long as the stream", exact.fewestMismatches(0), 2);
         due("as long as the stream", exact.nearestStart(0), 0);
-        KeywordMatcher far = Check.with(SIXTEEN);
+        Run far = Check.with(SIXTEEN);
         due("scan", Check.scan(far, repeat("z", 17)), 0);
         due("all sixteen differ", far.fewestMismatches(0), 16);
         due("all sixteen differ", far.nearestStart(0), 0);
-        KeywordMatcher folded = new KeywordMatcher();
+        Run folded = new Run();
         due("on", folded.setFolding(true), 0);
         due("add", Check.add(folded, "aBc", 1), 0);
         due("scan", Check.scan(folded, "AbX"), 0);
@@ -722,7 +723,7 @@ public final class PromiseTest {
 
     private static void superstrings() {
         promise = "41 to 43";
-        KeywordMatcher empty = new KeywordMatcher();
+        Run empty = new Run();
         due("empty", empty.superstringLength(), 0);
         due("empty", empty.superstringByte(0), NONE);
         due("negative", empty.superstringByte(-1), BAD_VALUE);
@@ -736,7 +737,7 @@ public final class PromiseTest {
         sameText(Check.with("bbcx", "abb", "xd"), "abbcxd");
         sameText(Check.with("abb", "aab", "qa"), "qaabb");
 
-        KeywordMatcher m = Check.with("cab", "abd", "b", "q");
+        Run m = Check.with("cab", "abd", "b", "q");
         sameText(m, "cabdq");
         due("start", m.superstringStart(0), 0);
         due("start", m.superstringStart(1), 1);
@@ -758,7 +759,7 @@ public final class PromiseTest {
         due("remove", m.removeKeyword(3), 1);
         sameText(m, "qc");
 
-        KeywordMatcher folded = new KeywordMatcher();
+        Run folded = new Run();
         due("on", folded.setFolding(true), 0);
         due("add", Check.add(folded, "xAB", 1), 0);
         due("add", Check.add(folded, "abY", 1), 1);
@@ -767,7 +768,7 @@ public final class PromiseTest {
         sameText(folded, "xABYBa");
         due("the first occurrence with folding", folded.superstringStart(3), 2);
 
-        KeywordMatcher full = new KeywordMatcher();
+        Run full = new Run();
         for (int i = 0; i < 40; i++) {
             due("add", Check.add(full, repeat("" + (char) ('0' + i), 16), 1), i);
         }
@@ -777,13 +778,13 @@ public final class PromiseTest {
         due("the last keyword", full.superstringStart(39), 624);
     }
 
-    private static void sameText(KeywordMatcher m, String want) {
+    private static void sameText(Run m, String want) {
         due("superstringLength of " + want, m.superstringLength(), want.length());
         String got = Check.superstring(m);
         due("superstring " + want + " (got " + got + ")", got.equals(want) ? 1 : 0, 1);
     }
 
-    private static void sameCover(KeywordMatcher m, int bytes, int weight, int... pairs) {
+    private static void sameCover(Run m, int bytes, int weight, int... pairs) {
         promise = "44";
         due("coveredBytes", m.coveredBytes(), bytes);
         promise = "45";
@@ -808,39 +809,39 @@ public final class PromiseTest {
     }
 
     private static void covers() {
-        sameCover(new KeywordMatcher(), 0, 0);
-        KeywordMatcher bytes = Check.with("bcd", "ab", "cd");
+        sameCover(new Run(), 0, 0);
+        Run bytes = Check.with("bcd", "ab", "cd");
         due("scan", Check.scan(bytes, "abcd"), 3);
         sameCover(bytes, 4, 5, 0, 1, 2, 2);
 
-        KeywordMatcher weight = new KeywordMatcher();
+        Run weight = new Run();
         Check.add(weight, "ab", 1);
         Check.add(weight, "a", 1);
         Check.add(weight, "b", 1);
         due("scan", Check.scan(weight, "ab"), 3);
         sameCover(weight, 2, 2, 0, 1, 1, 2);
 
-        KeywordMatcher fewer = new KeywordMatcher();
+        Run fewer = new Run();
         Check.add(fewer, "a", 1);
         Check.add(fewer, "b", 1);
         Check.add(fewer, "ab", 2);
         due("scan", Check.scan(fewer, "ab"), 3);
         sameCover(fewer, 2, 2, 0, 2);
 
-        KeywordMatcher early = new KeywordMatcher();
+        Run early = new Run();
         Check.add(early, "bc", 3);
         Check.add(early, "ab", 3);
         due("scan", Check.scan(early, "abc"), 2);
         sameCover(early, 2, 3, 0, 1);
 
-        KeywordMatcher lowest = new KeywordMatcher();
+        Run lowest = new Run();
         Check.add(lowest, "a", 2);
         Check.add(lowest, "aa", 2);
         Check.add(lowest, "b", 1);
         due("scan", Check.scan(lowest, "aaxb"), 4);
         sameCover(lowest, 3, 5, 0, 0, 1, 0, 3, 2);
 
-        KeywordMatcher number = new KeywordMatcher();
+        Run number = new Run();
         Check.add(number, "aaa", 4);
         Check.add(number, "aa", 4);
         due("scan", Check.scan(number, "aaaaa"), 7);
@@ -848,7 +849,7 @@ public final class PromiseTest {
         due("remove", number.removeKeyword(0), 1);
         sameCover(number, 4, 8, 0, 1, 2, 1);
 
-        KeywordMatcher full = new KeywordMatcher();
+        Run full = new Run();
         Check.add(full, "a", 99);
         for (int i = 0; i < 3; i++) {
             due("scan", Check.scan(full, repeat("a", 200)), 200);
@@ -863,7 +864,7 @@ public final class PromiseTest {
     }
 
     private static void coverAfterChanges() {
-        KeywordMatcher m = Check.with("ab", "bc", "c", "a");
+        Run m = Check.with("ab", "bc", "c", "a");
         due("scan", Check.scan(m, "abc"), 4);
         due("coverSize", m.coverSize(), 2);
         due("remove", m.removeKeyword(1), 3);
@@ -880,7 +881,7 @@ public final class PromiseTest {
 
     private static void longestMatches() {
         promise = "49 to 51";
-        KeywordMatcher m = Check.with("a", "ab", "bcde", "e");
+        Run m = Check.with("a", "ab", "bcde", "e");
         due("an empty stream", m.longestSize(), 0);
         due("scan", Check.scan(m, "xabcdea"), 5);
         due("longestSize", m.longestSize(), 3);
@@ -905,7 +906,7 @@ public final class PromiseTest {
     }
 
     private static void longestAfterChanges() {
-        KeywordMatcher m = Check.with("a", "ab", "abc");
+        Run m = Check.with("a", "ab", "abc");
         due("scan", Check.scan(m, "abca"), 4);
         due("longestSize", m.longestSize(), 2);
         due("the first byte", m.longestStart(0), 0);

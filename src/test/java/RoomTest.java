@@ -10,6 +10,7 @@ import java.util.Map;
  */
 public final class RoomTest {
     private static final int CALLS = 512;
+    private static final int RUNS = 80;
 
     private final Map<Object, Boolean> seen = new IdentityHashMap<>();
     private long cells = 0;
@@ -52,9 +53,9 @@ public final class RoomTest {
         }
     }
 
-    /** Twenty runs; a call that made a row of its own each time would make megabytes. */
+    /** Eighty runs; a call that made a row of its own each time would make megabytes. */
     private static long madeByCalls() {
-        KeywordMatcher[] fresh = new KeywordMatcher[20];
+        KeywordMatcher[] fresh = new KeywordMatcher[RUNS];
         for (int i = 0; i < fresh.length; i++) {
             fresh[i] = new KeywordMatcher();
         }
@@ -67,14 +68,15 @@ public final class RoomTest {
             sum += use(m);
         }
         long made = threads.getThreadAllocatedBytes(thread) - before;
-        System.out.println("20 runs made " + made + " bytes (sum of the answers: " + sum + ")");
+        System.out.println(RUNS + " runs made " + made + " bytes (sum of the answers: " + sum + ")");
         return made;
     }
 
+    /** Fourteen rounds of 36 calls, 504 in all; what is scanned and added makes many matches. */
     private static long use(KeywordMatcher m) {
         long sum = 0;
-        for (int i = 0; i < 60; i++) {
-            sum += m.appendBytes(0x61616161 + (i << 8) % 4096, 0x61626161, 0x61616161 + i % 7, 0x61616261, 0);
+        for (int i = 0; i < 14; i++) {
+            sum += m.appendBytes(0x61616161 + (i << 8), 0x61626161, 0x61616161 + i % 7, 0x61616261, 0);
             sum += i % 3 == 0 ? m.addKeyword(1 + i % 16, 5) : m.scan(16);
             sum += m.superstringLength() + m.superstringStart(0) + m.superstringByte(i);
             sum += m.coveredBytes() + m.coverWeight() + m.coverSize() + m.coverStart(i) + m.coverKeyword(i);
@@ -82,9 +84,9 @@ public final class RoomTest {
             sum += m.overlappingPairs() + m.maximumDepth() + m.containedMatches() + m.gapLength() + m.gapStart();
             sum += m.stateCount(i % 7) + m.currentDepth(i % 7) + m.failureLength(i / 3, 1) + m.plannedWork(40);
             sum += m.nearMatchCount(0, 3) + m.fewestMismatches(1) + m.nearestStart(2) + m.overlapLength(0, 1);
-            sum += m.matchCountOf(i) + m.nextMatch(i, 0) + m.findKeyword(0) + m.levelOf(i);
+            sum += m.matchCountOf(i) + m.nextMatch(i, 0) + m.findKeyword(0) + m.levelOf(i) + m.isLive(i);
             sum += i % 7 == 6 ? m.removeKeyword(i / 7) : m.streamByte(i);
-            sum += i == 50 ? m.resetStream() : m.setFolding(true);
+            sum += i == 12 ? m.resetStream() : m.setFolding(true);
         }
         return sum;
     }
