@@ -1,5 +1,8 @@
 /** Boundary cases of the best cover and of the leftmost-longest matches: promises 44 to 51. */
 final class CoverEdges extends Edges {
+    /** A row of blocks is covered by whole blocks, or by the bytes in them and the pairs between them; never by both. */
+    private static final String BLOCK = "S" + "m".repeat(14) + "E";
+
     private CoverEdges() {
     }
 
@@ -74,6 +77,14 @@ final class CoverEdges extends Edges {
         due("the first", chain.coverKeyword(0), 2);
         due("the last", chain.coverKeyword(299), 4);
         due("its start", chain.coverStart(299), 598);
+        // The pairs leave the last byte free, but weigh 54945 with what lies between them.
+        Run blocks = weighed("Z" + BLOCK.repeat(37), "ZS=99", "ES=99", "m=99", BLOCK + "=1", "Z=1");
+        due("coveredBytes", blocks.coveredBytes(), 593);
+        due("coverWeight", blocks.coverWeight(), 38);
+        due("coverSize", blocks.coverSize(), 38);
+        due("remove the blocks", blocks.removeKeyword(3), 4);
+        due("coveredBytes", blocks.coveredBytes(), 592);
+        due("coverWeight", blocks.coverWeight(), 54945);
     }
 
     private static void mostWeight() {
@@ -88,6 +99,9 @@ final class CoverEdges extends Edges {
         due("one unit outweighs 260 matches", many.coverWeight(), 600);
         due("coverSize", many.coverSize(), 300);
         due("the first", many.coverKeyword(0), 0);
+        Run most = blocksOrPairs(3);
+        due("one unit outweighs 517 matches", most.coverWeight(), 595);
+        due("coverSize", most.coverSize(), 556);
         Run heavy = weighed("a".repeat(16), "a".repeat(16) + "=17", "a=1");
         dueCover(heavy, 16, 17, 0, 0);
     }
@@ -101,8 +115,16 @@ final class CoverEdges extends Edges {
                 "ababab=" + fifthWeight, "x=1", "z=1");
     }
 
+    /** 594 bytes that are covered by 39 matches that weigh 594, or by 556 that weigh 592 and what the last pair weighs. */
+    private static Run blocksOrPairs(int lastWeight) {
+        return weighed("Z" + BLOCK.repeat(37) + "Z", "ZS=2", "ES=2", "EZ=" + lastWeight, "m=1", BLOCK + "=16", "Z=1");
+    }
+
     private static void fewestMatches() {
         says("D4", "among equal covers, the smallest number of matches");
+        Run fewest = blocksOrPairs(2);
+        due("coverWeight", fewest.coverWeight(), 594);
+        due("coverSize", fewest.coverSize(), 39);
         Run few = twoWays(6);
         due("coverWeight", few.coverWeight(), 600);
         due("coverSize", few.coverSize(), 40);

@@ -273,6 +273,16 @@ final class KeywordEdges extends Edges {
         due("remove", many.removeKeyword(119), 39);
         due("no number is left", Check.add(many, "a", 1), FULL);
         due("the last one can be asked for", many.keywordLength(119), 1);
+        Run last = given(119, 0);
+        due("the last number, the longest text", Check.add(last, SIXTEEN, 99), 119);
+        due("its length", last.keywordLength(119), 16);
+        dueAll("its bytes", 0, 16, i -> last.keywordByte(119, i), i -> i < 16 ? 'a' + i : NONE);
+        due("it is found", Check.find(last, SIXTEEN), 119);
+        due("it is reported", Check.scan(last, SIXTEEN), 1);
+        due("its states", last.stateCount(0), 17);
+        due("its failure length", last.failureLength(119, 16), 0);
+        due("its overlap", last.overlapLength(119, 118), 0);
+        due("its superstring", last.superstringLength(), 16);
     }
 
     private static void fortyLive() {

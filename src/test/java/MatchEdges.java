@@ -139,8 +139,10 @@ final class MatchEdges extends Edges {
         due("one match", scanned("ab", "ab").maximumDepth(), 1);
         due("side by side", scanned("abcd", "ab", "cd").maximumDepth(), 1);
         due("one byte in common", scanned("abc", "ab", "bc").maximumDepth(), 2);
-        due("at the first byte", scanned("ab", "a", "ab", "b").maximumDepth(), 2);
-        due("at the last byte", scanned("abc", "c", "bc", "abc").maximumDepth(), 3);
+        due("one byte", scanned("a", "a").maximumDepth(), 1);
+        due("at the first byte alone", scanned("abc", "a", "ab", "abc").maximumDepth(), 3);
+        due("at the last byte alone", scanned("abc", "c", "bc", "abc").maximumDepth(), 3);
+        due("at the last byte of a full stream", scanned("x".repeat(598) + "ab", "ab", "b").maximumDepth(), 2);
         due("pairs without a common byte of three", scanned("abcd", "ab", "bc", "cd").maximumDepth(), 2);
         due("the most", thickest().maximumDepth(), 136);
         says("P33", "0 if there are no matches");

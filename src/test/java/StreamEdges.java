@@ -316,12 +316,33 @@ final class StreamEdges extends Edges {
         due("find", m.findKeyword(0), NONE);
         due("scan", Check.scan(m, "b"), 0);
         due("no match goes across the reset", m.matchCount(), 0);
+        staleBytes();
 
         says("P23", "Returns the previous length of the stream");
         due("one byte", m.resetStream(), 1);
         due("none", m.resetStream(), 0);
         due("a new object", new Run().resetStream(), 0);
         due("all bytes", streamOf(600).resetStream(), 600);
+    }
+
+    /** What stood behind the new end before the stream was emptied is no part of it any more. */
+    private static void staleBytes() {
+        Run m = scanned("xabc");
+        due("reset", m.resetStream(), 4);
+        due("scan", Check.scan(m, "xa"), 0);
+        due("add", Check.add(m, "ab", 1), 0);
+        due("add", Check.add(m, "xabc", 1), 1);
+        due("matchCount", m.matchCount(), 0);
+        due("matchCountOf", m.matchCountOf(0), 0);
+        due("nextMatch", m.nextMatch(0, 0), NONE);
+        due("gapLength", m.gapLength(), 2);
+        due("fewestMismatches", m.fewestMismatches(0), 2);
+        due("nearMatchCount", m.nearMatchCount(1, 3), 0);
+        due("nearestStart", m.nearestStart(1), NONE);
+        due("coverSize", m.coverSize(), 0);
+        due("longestSize", m.longestSize(), 0);
+        due("currentDepth", m.currentDepth(1), 2);
+        due("streamByte", m.streamByte(2), NONE);
     }
 
     private static void streamBytes() {

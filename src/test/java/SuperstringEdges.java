@@ -55,6 +55,8 @@ final class SuperstringEdges extends Edges {
         dueText(with("b", "abc"), "abc");
         dueText(with("abc", "ab", "b"), "abc");
         dueText(with("abc", "ac"), "abcac");
+        // "pq" ends the first keyword and begins the second one, but occurs in neither.
+        dueText(with(SIXTEEN, "qz", "pq", "mnopX"), SIXTEEN + "Xpqz");
         dueText(with("p", SIXTEEN, "a", SIXTEEN.substring(1), SIXTEEN.substring(0, 15)), SIXTEEN);
         Run m = with("abc", "b", "q");
         dueText(m, "abcq");
@@ -95,6 +97,9 @@ final class SuperstringEdges extends Edges {
         dueText(with("xab", "abz"), "xabz");
         dueText(with("az", "q", "xa"), "qxaz");
         dueText(with("cd", "ab", "bc"), "abcd");
+        // What was appended to another element takes part no more, neither as x nor as y.
+        dueText(with("bcd", "abc", "dx"), "abcdx");
+        dueText(with("xab", "yab", "abz", "zy"), "xabzyab");
         StringBuilder text = new StringBuilder();
         for (int i = 0; i < 55; i++) {
             text.append((char) (33 + i));
