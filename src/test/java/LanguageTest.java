@@ -1,6 +1,8 @@
 import java.nio.file.Files;
 import java.nio.file.Path;
+import java.util.HashSet;
 import java.util.List;
+import java.util.Set;
 import java.util.regex.Matcher;
 import java.util.regex.Pattern;
 
@@ -26,8 +28,24 @@ public final class LanguageTest {
             Check.due("import " + imports.group(1), imports.group(1).equals("java.util.Arrays") ? 1 : 0, 1);
         }
         Check.due("too many classes", code.split("\\bclass\\b").length - 1 > 12 ? 1 : 0, 0);
+        Check.due("a static block", Pattern.compile("static\\s*\\{").matcher(code).find() ? 1 : 0, 0);
+        checkNames(code);
         checkLengths();
         Check.finish("LanguageTest");
+    }
+
+    /** No method that is not public bears the name of a public one (rule 1). */
+    private static void checkNames(String code) {
+        Set<String> shown = new HashSet<>();
+        Matcher open = Pattern.compile("public int (\\w+)\\(").matcher(code);
+        while (open.find()) {
+            shown.add(open.group(1));
+        }
+        Check.due("public methods", shown.size(), 50);
+        Matcher hidden = Pattern.compile("(?m)^ +(?!public|return)(?:private |static )*[\\w\\[\\]]+ (\\w+)\\(").matcher(code);
+        while (hidden.find()) {
+            Check.due("the name of a public method: " + hidden.group(1), shown.contains(hidden.group(1)) ? 1 : 0, 0);
+        }
     }
 
     /** A method begins at a line that ends with ") {" behind four or eight blanks, and ends at its closing brace. */

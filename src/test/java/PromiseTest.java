@@ -86,13 +86,6 @@ public final class PromiseTest {
         due("scan", four.scan(1), BAD_VALUE);
         due("setFolding", four.setFolding(true), 0);
         due("gapStart", four.gapStart(), NONE);
-        Run readme = new Run();
-        due("appendBytes", readme.appendBytes(0x61610000, 0, 0, 0, 0), 20);
-        due("addKeyword", readme.addKeyword(2, 5), 0);
-        due("appendBytes", readme.appendBytes(0x61616161, 0x62000000, 0, 0, 0), 20);
-        due("scan", readme.scan(5), 3);
-        due("reportEnd", readme.reportEnd(1), 2);
-        due("coverSize", readme.coverSize(), 2);
     }
 
     private static void newObject() {
